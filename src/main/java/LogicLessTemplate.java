@@ -29,6 +29,8 @@ public final class LogicLessTemplate {
     public static final int OUT_MIN = 16;
     public static final int OUT_MAX = 256;
 
+    // No place, no character, no field: what a search that found nothing answers.
+    private static final int NONE = -1;
     private static final int NEWLINE = 10;
     private static final int SPACE = 32;
     private static final int LAST_CHAR = 126;
@@ -64,7 +66,6 @@ public final class LogicLessTemplate {
 
     // The root, the sections open in slot 0, and those open in a slot it includes.
     private static final int FRAME_CAP = 1 + MAX_OPEN + MAX_OPEN;
-    private static final int NOWHERE = -1;
 
     // Two nested lists pass a cell at most LIST_CAP * LIST_CAP times, and each
     // pass of a cell of slot 0 may be a partial whose slot does the same again.
@@ -128,7 +129,7 @@ public final class LogicLessTemplate {
         this.outCap = cap;
         for (int slot = 0; slot < SLOTS; slot++) {
             slotStatus[slot] = ERR_NOT_COMPILED;
-            slotError[slot] = NOWHERE;
+            slotError[slot] = NONE;
         }
     }
 
@@ -212,7 +213,7 @@ public final class LogicLessTemplate {
     private void changeLength(int slot, int length) {
         textLength[slot] = length;
         slotStatus[slot] = ERR_NOT_COMPILED;
-        slotError[slot] = NOWHERE;
+        slotError[slot] = NONE;
     }
 
     public int compile(int slot) {
@@ -224,7 +225,7 @@ public final class LogicLessTemplate {
         int place = compileFrom;
         for (int tags = 0; tags < TEXT_CAP; tags++) {
             int tag = findMark(openMark, openMarkLength, place);
-            if (tag == NOWHERE) {
+            if (tag == NONE) {
                 break;
             }
             result = readTag(slot, tag);
@@ -239,7 +240,7 @@ public final class LogicLessTemplate {
             place = compileTo;
         }
         slotStatus[slot] = result;
-        slotError[slot] = result == OK ? NOWHERE : place - compileFrom;
+        slotError[slot] = result == OK ? NONE : place - compileFrom;
         return result;
     }
 
@@ -248,7 +249,7 @@ public final class LogicLessTemplate {
     }
 
     public int errorAt(int slot) {
-        return isSlot(slot) ? slotError[slot] : NOWHERE;
+        return isSlot(slot) ? slotError[slot] : NONE;
     }
 
     private void startCompile(int slot) {
@@ -272,7 +273,7 @@ public final class LogicLessTemplate {
                 return cell;
             }
         }
-        return NOWHERE;
+        return NONE;
     }
 
     private boolean occursAt(int[] mark, int length, int cell) {
@@ -287,7 +288,7 @@ public final class LogicLessTemplate {
     private int readTag(int slot, int tag) {
         int from = tag + openMarkLength;
         int to = findMark(closeMark, closeMarkLength, from);
-        if (to == NOWHERE) {
+        if (to == NONE) {
             return ERR_UNCLOSED;
         }
         // The end comes before the content is read, which may switch the marks.
@@ -340,7 +341,7 @@ public final class LogicLessTemplate {
     private int onlyChar(int from, int to) {
         int first = skipSpaces(from, to);
         int last = skipSpacesBack(first, to);
-        return last - first == 1 ? text[first] : NOWHERE;
+        return last - first == 1 ? text[first] : NONE;
     }
 
     private int skipSpaces(int from, int to) {
@@ -367,9 +368,10 @@ public final class LogicLessTemplate {
         int bEnd = skipSpacesBack(a, to - 1);
         int aEnd = skipMarkChars(a, bEnd);
         int b = skipSpaces(aEnd, bEnd);
-        boolean parted = b > aEnd;
+        // A takes every character that B could start with, so where no SPACE
+        // parts the two, what is left for B is empty or breaks its rule.
         boolean whole = skipMarkChars(b, bEnd) == bEnd;
-        if (!parted || !whole || !isMarkLength(aEnd - a) || !isMarkLength(bEnd - b)) {
+        if (!whole || !isMarkLength(aEnd - a) || !isMarkLength(bEnd - b)) {
             return false;
         }
         openMarkLength = aEnd - a;
@@ -482,7 +484,7 @@ public final class LogicLessTemplate {
             return ERR_ARG;
         }
         int field = fieldIndex(map, key);
-        if (field == NOWHERE) {
+        if (field == NONE) {
             field = amount[map];
             int added = addPart(map, key, MAP_CAP);
             if (added != OK) {
@@ -513,7 +515,7 @@ public final class LogicLessTemplate {
             return NO_VALUE;
         }
         int field = fieldIndex(map, key);
-        return field == NOWHERE ? NO_VALUE : fieldValues[map * MAP_CAP + field];
+        return field == NONE ? NO_VALUE : fieldValues[map * MAP_CAP + field];
     }
 
     private int kindOf(int id) {
@@ -539,7 +541,7 @@ public final class LogicLessTemplate {
                 return field;
             }
         }
-        return NOWHERE;
+        return NONE;
     }
 
     public int render(int root) {
@@ -571,8 +573,8 @@ public final class LogicLessTemplate {
         frameCount = 0;
         renderAt = 0;
         renderTo = textEnd(0);
-        returnAt = NOWHERE;
-        pushFrame(root, NO_LIST, NOWHERE);
+        returnAt = NONE;
+        pushFrame(root, NO_LIST, NONE);
     }
 
     private void renderStep() {
@@ -613,13 +615,13 @@ public final class LogicLessTemplate {
     }
 
     private void leaveSlot() {
-        if (returnAt == NOWHERE) {
+        if (returnAt == NONE) {
             finished = true;
             return;
         }
         renderAt = returnAt;
         renderTo = textEnd(0);
-        returnAt = NOWHERE;
+        returnAt = NONE;
     }
 
     private void enterPartial(int tag) {

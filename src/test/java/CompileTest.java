@@ -122,7 +122,9 @@ public final class CompileTest {
         bad("{{=a=}}", TAG, 0);
         bad("{{=ab=}}", TAG, 0);
         bad("{{=a b}}", TAG, 0);
+        bad("{{=a bc}}", TAG, 0);
         bad("{{=a b= }}", TAG, 0);
+        bad("{{=a b=c}}", TAG, 0);
         bad("{{=a b c=}}", TAG, 0);
         bad("{{=abcd b=}}", TAG, 0);
         bad("{{=a bcde=}}", TAG, 0);
@@ -139,6 +141,9 @@ public final class CompileTest {
         bad("{{=< >=}}<={{ }}=>{{?}}", TAG, 18);
         good("{{=< >=}}<={{ }}=>{{a}}<");
         good("{{=aa b=}}aaab");
+        for (String close : new String[] {"!", "#", "&", "^", "/", ">", "a", "."}) {
+            bad("{{=< " + close + "=}}<" + close, TAG, 9);
+        }
         bad("{{=ab aba=}}abaabababa", UNCLOSED, 19);
         LogicLessTemplate x = new LogicLessTemplate(64);
         Check.put(x, 0, "{{=< >=}}<a>");

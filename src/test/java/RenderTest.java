@@ -17,9 +17,11 @@ public final class RenderTest {
         partials();
         delimiters();
         standaloneLines();
+        standaloneAtTheCap();
         standalonePartials();
         overflow();
         overflowInside();
+        longRender();
         changesBetweenRenders();
         readingTheOutput();
         CHECK.end();
@@ -244,6 +246,22 @@ public final class RenderTest {
         renders(x, root, "  plain  \n", "  plain  \n");
     }
 
+    /** A standalone tag that ends a full slot removes nothing of the next slot. */
+    private static void standaloneAtTheCap() {
+        LogicLessTemplate x = new LogicLessTemplate(256);
+        int root = Check.num(x, 1);
+        String full = "x".repeat(88) + "\n{{!c}} ";
+        for (int slot = 3; slot >= 1; slot--) {
+            Check.put(x, slot, full);
+            CHECK.due("P5: compile of a full slot", x.compile(slot), OK);
+        }
+        for (int slot = 1; slot <= 3; slot++) {
+            renders(x, root, "{{>" + slot + "}}", "x".repeat(88) + "\n");
+        }
+        renders(x, root, full, "x".repeat(88) + "\n");
+        renders(x, root, "{{>1}}", "x".repeat(88) + "\n");
+    }
+
     private static void standalonePartials() {
         LogicLessTemplate x = new LogicLessTemplate(64);
         int root = Check.map(x, "a", Check.num(x, 1));
@@ -308,6 +326,18 @@ public final class RenderTest {
         overflows(x, no, "abcdefghijklmn{{.}}", "abcdefghijklmnfal");
         // A value whose text is empty emits nothing, even into a full output.
         renders(x, Check.str(x, ""), "abcdefghijklmnopq{{.}}", "abcdefghijklmnopq");
+    }
+
+    /** About the longest way through two slots that emits next to nothing. */
+    private static void longRender() {
+        LogicLessTemplate x = new LogicLessTemplate(16);
+        int self = Check.list(x);
+        for (int i = 0; i < 4; i++) {
+            x.addItem(self, self);
+        }
+        Check.put(x, 1, "{{=< >=}}\n<#.>\n<#.>\n" + " ".repeat(63) + "<!>\n</.>\n</.>");
+        CHECK.due("P5: compile of a full slot", x.compile(1), OK);
+        renders(x, self, "{{=| |=}}|#.||#.|" + "|>1|".repeat(17) + "|/.||/.|x", "x");
     }
 
     private static void changesBetweenRenders() {
