@@ -1,14 +1,16 @@
 import java.util.ArrayList;
+import java.util.LinkedHashMap;
 import java.util.List;
+import java.util.Map;
 
 /**
- * The document's promises 5 and 13 told a second time, with strings, lists and
- * recursion. It reads texts and values through the getters of a LogicLessTemplate
- * and says what a compile or a render of them must give.
+ * The document told a second time, promise by promise, with strings, lists and
+ * recursion: what each call on a LogicLessTemplate must answer.
  */
 final class Model {
-    int result;
-    int at;
+    private static final int OK = LogicLessTemplate.OK;
+    private static final int ERR_ARG = LogicLessTemplate.ERR_ARG;
+    private static final int ERR_FULL = LogicLessTemplate.ERR_FULL;
 
     private static final class Tag {
         char kind;
@@ -18,83 +20,149 @@ final class Model {
         int close;
     }
 
+    private static final class Slot {
+        String text = "";
+        int status = LogicLessTemplate.ERR_NOT_COMPILED;
+        int errorAt = -1;
+        List<Tag> tags = new ArrayList<>();
+        boolean[] removed = {};
+
+        void change(String next) {
+            text = next;
+            result(LogicLessTemplate.ERR_NOT_COMPILED, -1);
+        }
+
+        int result(int answer, int at) {
+            status = answer;
+            errorAt = at;
+            return answer;
+        }
+    }
+
+    private static final class Value {
+        final int kind;
+        final int num;
+        final List<Integer> parts = new ArrayList<>();
+        final Map<Integer, Integer> fields = new LinkedHashMap<>();
+
+        Value(int kind, int num) {
+            this.kind = kind;
+            this.num = num;
+        }
+
+        boolean falsey() {
+            return kind == 0 || kind == LogicLessTemplate.KIND_FALSE || kind == LogicLessTemplate.KIND_LIST && parts.isEmpty();
+        }
+    }
+
     private static final class Full extends RuntimeException {
         private static final long serialVersionUID = 1L;
     }
 
-    private final LogicLessTemplate x;
+    private static final Value MISSING = new Value(0, 0);
+
     private final int outCap;
+    private final List<Slot> slots = List.of(new Slot(), new Slot(), new Slot(), new Slot());
+    private final List<Value> values = new ArrayList<>();
     private final StringBuilder out = new StringBuilder();
 
-    Model(LogicLessTemplate x, int outCap) {
-        this.x = x;
-        this.outCap = outCap;
+    Model(int outCap) {
+        this.outCap = Math.max(16, Math.min(256, outCap));
     }
 
-    private String text;
-    private List<Tag> tags;
-    private boolean[] removed;
+    int putChars(int slot, int packed) {
+        if (!isSlot(slot)) {
+            return ERR_ARG;
+        }
+        String more = "";
+        for (int rest = packed; (rest & 255) != 0; rest >>>= 8) {
+            more += (char) (rest & 255);
+        }
+        for (char c : more.toCharArray()) {
+            if (c != '\n' && (c < ' ' || c > '~')) {
+                return ERR_ARG;
+            }
+        }
+        Slot s = slots.get(slot);
+        if (s.text.length() + more.length() > 96) {
+            return ERR_FULL;
+        }
+        if (!more.isEmpty()) {
+            s.change(s.text + more);
+        }
+        return more.length();
+    }
 
-    void compile(int slot) {
-        text = Check.text(x, slot);
-        tags = new ArrayList<>();
-        removed = new boolean[text.length()];
-        result = LogicLessTemplate.OK;
-        at = -1;
-        List<Integer> open = new ArrayList<>();
+    int clearTemplate(int slot) {
+        if (!isSlot(slot)) {
+            return ERR_ARG;
+        }
+        slots.get(slot).change("");
+        return OK;
+    }
+
+    int templateLength(int slot) {
+        return isSlot(slot) ? slots.get(slot).text.length() : -1;
+    }
+
+    int templateChar(int slot, int i) {
+        return i >= 0 && i < templateLength(slot) ? slots.get(slot).text.charAt(i) : -1;
+    }
+
+    int status(int slot) {
+        return isSlot(slot) ? slots.get(slot).status : ERR_ARG;
+    }
+
+    int errorAt(int slot) {
+        return isSlot(slot) ? slots.get(slot).errorAt : -1;
+    }
+
+    private static boolean isSlot(int slot) {
+        return List.of(0, 1, 2, 3).contains(slot);
+    }
+
+    int compile(int slot) {
+        if (!isSlot(slot)) {
+            return ERR_ARG;
+        }
+        Slot s = slots.get(slot);
+        s.tags = new ArrayList<>();
+        s.removed = new boolean[s.text.length()];
+        List<Tag> open = new ArrayList<>();
         String o = "{{";
         String c = "}}";
         int p = 0;
-        for (int q = text.indexOf(o, p); q >= 0; q = text.indexOf(o, p)) {
-            int r = text.indexOf(c, q + o.length());
+        for (int q = s.text.indexOf(o, p); q >= 0; q = s.text.indexOf(o, p)) {
+            int r = s.text.indexOf(c, q + o.length());
             if (r < 0) {
-                fail(LogicLessTemplate.ERR_UNCLOSED, q);
-                return;
+                return s.result(LogicLessTemplate.ERR_UNCLOSED, q);
             }
             Tag tag = new Tag();
             tag.from = q;
             tag.end = r + c.length();
-            String k = text.substring(q + o.length(), r);
+            String k = s.text.substring(q + o.length(), r);
             if (!classify(tag, k)) {
-                fail(LogicLessTemplate.ERR_TAG, q);
-                return;
+                return s.result(LogicLessTemplate.ERR_TAG, q);
             }
             if (tag.kind == '=') {
                 String[] marks = trim(k.substring(1, k.length() - 1)).split(" +");
                 o = marks[0];
                 c = marks[1];
             }
-            if (tag.kind == '#' || tag.kind == '^') {
-                if (open.size() == 2) {
-                    fail(LogicLessTemplate.ERR_NESTING, q);
-                    return;
-                }
-                open.add(tags.size());
-            } else if (tag.kind == '/') {
-                if (open.isEmpty() || tags.get(open.get(open.size() - 1)).name != tag.name) {
-                    fail(LogicLessTemplate.ERR_NESTING, q);
-                    return;
-                }
-                tags.get(open.remove(open.size() - 1)).close = tags.size();
-            } else if (tag.kind == '>' && slot != 0) {
-                fail(LogicLessTemplate.ERR_PARTIAL, q);
-                return;
+            int nested = nest(tag, open, slot, s.tags.size());
+            if (nested != OK) {
+                return s.result(nested, q);
             }
-            tags.add(tag);
+            s.tags.add(tag);
             p = tag.end;
         }
         if (!open.isEmpty()) {
-            fail(LogicLessTemplate.ERR_NESTING, text.length());
-            return;
+            return s.result(LogicLessTemplate.ERR_NESTING, s.text.length());
         }
-        for (Tag tag : tags) {
-            removeStandalone(tag);
+        for (Tag tag : s.tags) {
+            removeStandalone(s, tag);
         }
-    }
-
-    private void fail(int error, int place) {
-        result = error;
-        at = place;
+        return s.result(OK, -1);
     }
 
     private static String trim(String s) {
@@ -119,44 +187,131 @@ final class Model {
         return name.matches(first == '>' ? "[1-3]" : "[a-z.]") && name.length() == 1;
     }
 
-    private void removeStandalone(Tag tag) {
+    private static int nest(Tag tag, List<Tag> open, int slot, int index) {
+        if (tag.kind == '#' || tag.kind == '^') {
+            open.add(tag);
+            return open.size() > 2 ? LogicLessTemplate.ERR_NESTING : OK;
+        }
+        if (tag.kind == '/') {
+            if (open.isEmpty() || open.get(open.size() - 1).name != tag.name) {
+                return LogicLessTemplate.ERR_NESTING;
+            }
+            open.remove(open.size() - 1).close = index;
+        }
+        return tag.kind == '>' && slot != 0 ? LogicLessTemplate.ERR_PARTIAL : OK;
+    }
+
+    private static void removeStandalone(Slot s, Tag tag) {
         if (tag.kind == 'v' || tag.kind == '&') {
             return;
         }
-        int ls = 1 + text.substring(0, tag.from).lastIndexOf('\n');
-        int newline = text.indexOf('\n', tag.end);
-        int le = newline < 0 ? text.length() : newline;
-        if (!trim(text.substring(ls, tag.from)).isEmpty() || !trim(text.substring(tag.end, le)).isEmpty()) {
+        int ls = 1 + s.text.substring(0, tag.from).lastIndexOf('\n');
+        int newline = s.text.indexOf('\n', tag.end);
+        int le = newline < 0 ? s.text.length() : newline;
+        String around = s.text.substring(ls, tag.from) + s.text.substring(tag.end, le);
+        if (!trim(around).isEmpty()) {
             return;
         }
-        for (int i = ls; i <= le && i < text.length(); i++) {
-            removed[i] = removed[i] || i < tag.from || i >= tag.end;
+        for (int i = ls; i <= le && i < s.text.length(); i++) {
+            s.removed[i] = s.removed[i] || i < tag.from || i >= tag.end;
         }
     }
 
-    String render(int root) {
-        result = LogicLessTemplate.OK;
+    int newValue(int kind, int num) {
+        if (!List.of(1, 2, 3, 4, 5, 6).contains(kind)) {
+            return ERR_ARG;
+        }
+        if (values.size() == 32) {
+            return ERR_FULL;
+        }
+        values.add(new Value(kind, num));
+        return values.size();
+    }
+
+    private Value value(int id) {
+        return id >= 1 && id <= values.size() ? values.get(id - 1) : MISSING;
+    }
+
+    int appendChar(int id, int c) {
+        if (value(id).kind != LogicLessTemplate.KIND_STR || c < ' ' || c > '~') {
+            return ERR_ARG;
+        }
+        return grow(value(id).parts, c, 8);
+    }
+
+    int addItem(int list, int item) {
+        if (value(list).kind != LogicLessTemplate.KIND_LIST || value(item) == MISSING) {
+            return ERR_ARG;
+        }
+        return grow(value(list).parts, item, 4);
+    }
+
+    private static int grow(List<Integer> parts, int part, int cap) {
+        if (parts.size() == cap) {
+            return ERR_FULL;
+        }
+        parts.add(part);
+        return OK;
+    }
+
+    int setField(int map, int key, int val) {
+        if (value(map).kind != LogicLessTemplate.KIND_MAP || key < 'a' || key > 'z' || value(val) == MISSING) {
+            return ERR_ARG;
+        }
+        Map<Integer, Integer> fields = value(map).fields;
+        if (fields.size() == 4 && !fields.containsKey(key)) {
+            return ERR_FULL;
+        }
+        fields.put(key, val);
+        return OK;
+    }
+
+    int valueInfo(int id, int i) {
+        Value v = value(id);
+        if (i == -2) {
+            return v.kind;
+        }
+        List<Integer> parts = v.kind == LogicLessTemplate.KIND_MAP ? new ArrayList<>(v.fields.keySet()) : v.parts;
+        if (i == -1) {
+            return v == MISSING ? -1 : v.kind == LogicLessTemplate.KIND_NUM ? v.num : parts.size();
+        }
+        return i >= 0 && i < parts.size() ? parts.get(i) : -1;
+    }
+
+    int fieldOf(int map, int key) {
+        return value(map).fields.getOrDefault(key, 0);
+    }
+
+    int render(int root) {
+        if (status(0) != OK) {
+            return LogicLessTemplate.ERR_NOT_COMPILED;
+        }
+        if (value(root) == MISSING) {
+            return LogicLessTemplate.ERR_VALUE;
+        }
         out.setLength(0);
-        List<Integer> stack = new ArrayList<>();
-        stack.add(root);
         try {
-            renderSlot(0, stack);
+            renderSlot(slots.get(0), List.of(value(root)));
         } catch (Full full) {
-            result = LogicLessTemplate.ERR_OVERFLOW;
+            return LogicLessTemplate.ERR_OVERFLOW;
         }
-        return out.toString();
+        return OK;
     }
 
-    private void renderSlot(int slot, List<Integer> stack) {
-        if (x.status(slot) == LogicLessTemplate.OK) {
-            Model compiled = new Model(x, outCap);
-            compiled.compile(slot);
-            renderRange(compiled, 0, compiled.tags.size(), 0, compiled.text.length(), stack);
-        }
+    int outLength() {
+        return out.length();
+    }
+
+    int outChar(int i) {
+        return i >= 0 && i < out.length() ? out.charAt(i) : -1;
+    }
+
+    private void renderSlot(Slot slot, List<Value> stack) {
+        renderRange(slot, 0, slot.tags.size(), 0, slot.text.length(), stack);
     }
 
     /** Tags i..j-1 of a slot, and the literal text around them from p to end. */
-    private void renderRange(Model slot, int i, int j, int p, int end, List<Integer> stack) {
+    private void renderRange(Slot slot, int i, int j, int p, int end, List<Value> stack) {
         int tagAt = i;
         int from = p;
         while (tagAt < j) {
@@ -167,14 +322,12 @@ final class Model {
             if (tag.kind == 'v' || tag.kind == '&') {
                 variable(lookUp(tag.name, stack), tag.kind == 'v');
             } else if (tag.kind == '>') {
-                renderSlot(tag.name - '0', stack);
+                if (status(tag.name - '0') == OK) {
+                    renderSlot(slots.get(tag.name - '0'), stack);
+                }
             } else if (tag.kind == '#' || tag.kind == '^') {
                 Tag close = slot.tags.get(tag.close);
-                for (int value : bodies(tag.kind, lookUp(tag.name, stack))) {
-                    List<Integer> inner = new ArrayList<>(stack);
-                    if (tag.kind == '#') {
-                        inner.add(value);
-                    }
+                for (List<Value> inner : bodies(tag.kind, lookUp(tag.name, stack), stack)) {
                     renderRange(slot, tagAt + 1, tag.close, tag.end, close.from, inner);
                 }
                 from = close.end;
@@ -185,66 +338,71 @@ final class Model {
         literal(slot, from, end);
     }
 
-    private List<Integer> bodies(char kind, int v) {
-        int type = x.valueInfo(v, -2);
-        int count = x.valueInfo(v, -1);
-        boolean list = type == LogicLessTemplate.KIND_LIST;
-        boolean falsey = type == 0 || type == LogicLessTemplate.KIND_FALSE || list && count == 0;
-        if (falsey != (kind == '^')) {
-            return List.of();
+    /** The stacks with which a body is rendered, one after the other. */
+    private List<List<Value>> bodies(char kind, Value v, List<Value> stack) {
+        List<List<Value>> all = new ArrayList<>();
+        if (kind == '^') {
+            if (v.falsey()) {
+                all.add(stack);
+            }
+        } else if (v.kind == LogicLessTemplate.KIND_LIST) {
+            for (int item : v.parts) {
+                all.add(pushed(stack, value(item)));
+            }
+        } else if (!v.falsey()) {
+            all.add(pushed(stack, v));
         }
-        if (!list || falsey) {
-            return List.of(v);
-        }
-        List<Integer> items = new ArrayList<>();
-        for (int j = 0; j < count; j++) {
-            items.add(x.valueInfo(v, j));
-        }
-        return items;
+        return all;
     }
 
-    private int lookUp(char name, List<Integer> stack) {
+    private static List<Value> pushed(List<Value> stack, Value v) {
+        List<Value> more = new ArrayList<>(stack);
+        more.add(v);
+        return more;
+    }
+
+    private Value lookUp(char name, List<Value> stack) {
         if (name == '.') {
             return stack.get(stack.size() - 1);
         }
         for (int i = stack.size() - 1; i >= 0; i--) {
-            if (x.fieldOf(stack.get(i), name) != 0) {
-                return x.fieldOf(stack.get(i), name);
+            if (stack.get(i).fields.containsKey((int) name)) {
+                return value(stack.get(i).fields.get((int) name));
             }
         }
-        return 0;
+        return MISSING;
     }
 
-    private void variable(int v, boolean escaped) {
-        String value = "";
-        switch (x.valueInfo(v, -2)) {
+    private void variable(Value v, boolean escaped) {
+        String shown = "";
+        switch (v.kind) {
             case LogicLessTemplate.KIND_NUM:
-                value = Integer.toString(x.valueInfo(v, -1));
+                shown = Integer.toString(v.num);
                 break;
             case LogicLessTemplate.KIND_TRUE:
-                value = "true";
+                shown = "true";
                 break;
             case LogicLessTemplate.KIND_FALSE:
-                value = "false";
+                shown = "false";
                 break;
             case LogicLessTemplate.KIND_STR:
-                for (int i = 0; i < x.valueInfo(v, -1); i++) {
-                    value += (char) x.valueInfo(v, i);
+                for (int c : v.parts) {
+                    shown += (char) c;
                 }
                 break;
             default:
                 break;
         }
         if (escaped) {
-            value = value.replace("&", "&amp;").replace("<", "&lt;").replace(">", "&gt;");
-            value = value.replace("\"", "&quot;").replace("'", "&#39;");
+            shown = shown.replace("&", "&amp;").replace("<", "&lt;").replace(">", "&gt;");
+            shown = shown.replace("\"", "&quot;").replace("'", "&#39;");
         }
-        for (char c : value.toCharArray()) {
+        for (char c : shown.toCharArray()) {
             emit(c);
         }
     }
 
-    private void literal(Model slot, int from, int to) {
+    private void literal(Slot slot, int from, int to) {
         for (int i = from; i < to; i++) {
             if (!slot.removed[i]) {
                 emit(slot.text.charAt(i));

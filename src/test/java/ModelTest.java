@@ -1,6 +1,6 @@
-/** Promises 5 and 13 on many made-up templates and values, held against the Model. */
+/** Many made-up templates and values, held against the Model. */
 public final class ModelTest {
-    private static final int ROUNDS = 40000;
+    private static final int ROUNDS = 30000;
     private static final Check CHECK = new Check();
     private static final String[] PIECES = {"{{", "}}", "{", "}", "#", "^", "/", "&", ">", "=", "!", ".", "a", "b", "c",
         " ", "  ", "\n", "\n", "1", "2", "3", "<", ">", "x", "\"", "'", "{{=< >=}}", "<={{ }}=>", "{{=<% %>=}}",
@@ -34,45 +34,30 @@ public final class ModelTest {
 
     private void round() {
         int outCap = below(4) == 0 ? 16 + below(20) : 16 + below(241);
-        LogicLessTemplate x = new LogicLessTemplate(outCap);
-        makeValues(x);
+        Twin twin = new Twin(CHECK, outCap);
+        makeValues(twin);
         for (int change = 0; change < 3; change++) {
             for (int slot = 3; slot >= 0; slot--) {
                 if (below(3) != 0 || change == 0) {
-                    changeTemplate(x, slot);
+                    changeTemplate(twin, slot);
                 }
             }
-            renderAll(x, outCap);
-            makeValues(x);
+            for (int root = 1; root <= 3; root++) {
+                filled += twin.render(root) == LogicLessTemplate.ERR_OVERFLOW ? 1 : 0;
+                twin.sameOutput();
+            }
+            makeValues(twin);
         }
+        twin.sameState();
     }
 
-    private void changeTemplate(LogicLessTemplate x, int slot) {
-        String text = template(slot);
-        Check.set(x, slot, text);
-        if (below(12) == 0) {
-            return;
+    private void changeTemplate(Twin twin, int slot) {
+        twin.clearTemplate(slot);
+        twin.put(slot, template(slot));
+        if (below(12) != 0) {
+            compiled += twin.compile(slot) == LogicLessTemplate.OK ? 1 : 0;
         }
-        Model model = new Model(x, 16);
-        model.compile(slot);
-        CHECK.due("P5: compile of " + text + " in slot " + slot, x.compile(slot), model.result);
-        CHECK.due("P5: errorAt of " + text + " in slot " + slot, x.errorAt(slot), model.at);
-        CHECK.due("P5: status of " + text + " in slot " + slot, x.status(slot), model.result);
-        compiled += model.result == LogicLessTemplate.OK ? 1 : 0;
-    }
-
-    private void renderAll(LogicLessTemplate x, int outCap) {
-        if (x.status(0) != LogicLessTemplate.OK) {
-            CHECK.refused("P13: render", x, () -> x.render(1), LogicLessTemplate.ERR_NOT_COMPILED);
-            return;
-        }
-        for (int root = 1; root <= 3; root++) {
-            Model model = new Model(x, outCap);
-            String want = model.render(root);
-            CHECK.due("P13: render of " + Check.state(x), x.render(root), model.result);
-            CHECK.due("P13: output of " + Check.state(x), Check.out(x), want);
-            filled += model.result == LogicLessTemplate.OK ? 0 : 1;
-        }
+        twin.get(slot, 0);
     }
 
     private String template(int slot) {
@@ -137,7 +122,7 @@ public final class ModelTest {
         return "  ".substring(below(6) < 4 ? 2 : below(2));
     }
 
-    private void makeValues(LogicLessTemplate x) {
+    private void makeValues(Twin x) {
         for (int i = 0; i < 6; i++) {
             int kind = below(2) == 0 ? LogicLessTemplate.KIND_LIST + below(2) : 1 + below(6);
             x.newValue(kind, below(3) == 0 ? anyInt() : below(20) - 10);

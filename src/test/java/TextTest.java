@@ -51,17 +51,13 @@ public final class TextTest {
         CHECK.due("P1: status of slot 0 is not OK", x.render(1), LogicLessTemplate.ERR_NOT_COMPILED);
     }
 
-    private static int pack(int c0, int c1, int c2, int c3) {
-        return c0 | c1 << 8 | c2 << 16 | c3 << 24;
-    }
-
     private static void putCharsSplits() {
         LogicLessTemplate x = new LogicLessTemplate(64);
-        CHECK.due("P2: four", x.putChars(2, pack('a', 'b', 'c', 'd')), 4);
-        CHECK.due("P2: three", x.putChars(2, pack('e', 'f', 'g', 0)), 3);
-        CHECK.due("P2: two, then a zero, then a bad byte", x.putChars(2, pack('h', 'i', 0, 200)), 2);
-        CHECK.due("P2: one, then a zero, then good bytes", x.putChars(2, pack('j', 0, 'x', 'y')), 1);
-        CHECK.due("P2: edges", x.putChars(2, pack(10, 32, 126, 33)), 4);
+        CHECK.due("P2: four", x.putChars(2, Check.pack('a', 'b', 'c', 'd')), 4);
+        CHECK.due("P2: three", x.putChars(2, Check.pack('e', 'f', 'g', 0)), 3);
+        CHECK.due("P2: two, then a zero, then a bad byte", x.putChars(2, Check.pack('h', 'i', 0, 200)), 2);
+        CHECK.due("P2: one, then a zero, then good bytes", x.putChars(2, Check.pack('j', 0, 'x', 'y')), 1);
+        CHECK.due("P2: edges", x.putChars(2, Check.pack(10, 32, 126, 33)), 4);
         CHECK.due("P2: text", Check.text(x, 2), "abcdefghij\n ~!");
         CHECK.due("P2: slot 0 is as before", x.templateLength(0), 0);
         CHECK.due("P2: slot 1 is as before", x.templateLength(1), 0);
@@ -80,13 +76,13 @@ public final class TextTest {
             int bad = c;
             if (c != 10 && (c < 32 || c > 126)) {
                 for (int place = 0; place < 4; place++) {
-                    int packed = pack('a', 'b', 'c', 'd') & ~(255 << 8 * place) | bad << 8 * place;
+                    int packed = Check.pack('a', 'b', 'c', 'd') & ~(255 << 8 * place) | bad << 8 * place;
                     CHECK.refused("P2: byte " + c + " at " + place, x, () -> x.putChars(0, packed), LogicLessTemplate.ERR_ARG);
                 }
             }
         }
         CHECK.refused("P2: no character", x, () -> x.putChars(0, 0), 0);
-        CHECK.refused("P2: no character, others after it", x, () -> x.putChars(0, pack(0, 'a', 200, 255)), 0);
+        CHECK.refused("P2: no character, others after it", x, () -> x.putChars(0, Check.pack(0, 'a', 200, 255)), 0);
         CHECK.refused("P2: the least int", x, () -> x.putChars(0, Integer.MIN_VALUE), 0);
         CHECK.due("P2: status is kept", x.status(0), LogicLessTemplate.ERR_UNCLOSED);
         CHECK.due("P2: error position is kept", x.errorAt(0), 0);
@@ -98,9 +94,9 @@ public final class TextTest {
             LogicLessTemplate x = new LogicLessTemplate(64);
             Check.put(x, slot, "x".repeat(94));
             x.compile(slot);
-            CHECK.refused("P2: 94 and 3", x, () -> x.putChars(s, pack('a', 'b', 'c', 0)), LogicLessTemplate.ERR_FULL);
-            CHECK.refused("P2: 94 and 4", x, () -> x.putChars(s, pack('a', 'b', 'c', 'd')), LogicLessTemplate.ERR_FULL);
-            CHECK.due("P2: 94 and 2", x.putChars(slot, pack('a', 'b', 0, 0)), 2);
+            CHECK.refused("P2: 94 and 3", x, () -> x.putChars(s, Check.pack('a', 'b', 'c', 0)), LogicLessTemplate.ERR_FULL);
+            CHECK.refused("P2: 94 and 4", x, () -> x.putChars(s, Check.pack('a', 'b', 'c', 'd')), LogicLessTemplate.ERR_FULL);
+            CHECK.due("P2: 94 and 2", x.putChars(slot, Check.pack('a', 'b', 0, 0)), 2);
             CHECK.refused("P2: 96 and 1", x, () -> x.putChars(s, 'a'), LogicLessTemplate.ERR_FULL);
             CHECK.refused("P2: 96 and a bad one", x, () -> x.putChars(s, 9), LogicLessTemplate.ERR_ARG);
             CHECK.refused("P2: 96 and none", x, () -> x.putChars(s, 0), 0);
