@@ -87,7 +87,8 @@ public final class CompileEdgeTest {
 
     /** "At the start of every compile, O is {{ .., C is }} .., p = 0 and no section is open." */
     private static void everyCompileStartsAnew() {
-        String[] before = {"{{=< >=}}", "{{=<<< >>>=}}", "{{=<<< >>>=}}<<<?>>>", "{{#a}}", "{{#a}}{{#b}}", "{{#a}}{{#b}}{{#c}}", "{{#a}}{{", "{{^a}}{{?}}"};
+        String[] before = {"{{=< >=}}", "{{=<<< >>>=}}", "{{=<<< >>>=}}<<<?>>>", "{{#a}}", "{{#a}}{{#b}}",
+            "{{#a}}{{#b}}{{#c}}", "{{#a}}{{", "{{^a}}{{?}}"};
         for (String text : before) {
             for (int slot = 0; slot < 4; slot++) {
                 for (int next = 0; next < 4; next++) {
@@ -207,6 +208,11 @@ public final class CompileEdgeTest {
             compiles(slot, "{{" + " ".repeat(92) + "}}", TAG, 0);
             compiles(slot, "{{}}}}", TAG, 0);
         }
+        // The character after an empty content is the close mark's, and does not class the tag.
+        for (String close : new String[] {"!", "#", "^", "/", "&", ">", "a", ".", "!a", "&a", "#a", ">1"}) {
+            bad("{{=< " + close + "=}}<" + close, TAG, 8 + close.length());
+            bad("{{=< " + close + "=}}< " + close, TAG, 8 + close.length());
+        }
         for (String first : new String[] {"#", "^", "/", "&", ">", "="}) {
             bad("{{" + first + "}}", TAG, 0);
             bad("{{" + first + " }}", TAG, 0);
@@ -236,6 +242,8 @@ public final class CompileEdgeTest {
         bad("{{= a=}}", TAG, 0);
         good("{{=a b=}}");
         bad("{{=a b}}", TAG, 0);
+        bad("{{=a bc}}", TAG, 0);
+        bad("{{=a b }}", TAG, 0);
         bad("{{=a b= }}", TAG, 0);
         bad("{{=a b=.}}", TAG, 0);
         bad("{{=a b==}}", TAG, 0);
@@ -517,7 +525,8 @@ public final class CompileEdgeTest {
 
     /** The same at index 0 and at index 95 of a text that fills its slot, each slot beside full ones. */
     private static void standaloneInAFullText() {
-        String[] texts = {"{{!}}\n" + x(84) + "\n{{!}}", " {{!}} \n" + x(81) + "\n{{!}} ", "{{!" + x(91) + "}}", " ".repeat(46) + "{{!}}" + " ".repeat(45),
+        String[] texts = {"{{!}}\n" + x(84) + "\n{{!}}", " {{!}} \n" + x(81) + "\n{{!}} ", "{{!" + x(91) + "}}",
+            " ".repeat(46) + "{{!}}" + " ".repeat(45),
             x(89) + "\n{{!}}\n", "\n".repeat(91) + "{{!}}", x(91) + "{{!}}", "{{!}}" + x(91)};
         String[] shown = {x(84) + "\n", x(81) + "\n", "", "", x(89) + "\n", "\n".repeat(91), x(91), x(91)};
         for (int i = 0; i < texts.length; i++) {
@@ -543,7 +552,10 @@ public final class CompileEdgeTest {
         }
     }
 
-    /** "the slot's status becomes the result. Its error position becomes the position given with the error, or -1 for OK. The answer is the result." */
+    /**
+     * "the slot's status becomes the result. Its error position becomes the position given with the error, or -1 for OK.
+     * The answer is the result."
+     */
     private static void statusAndErrorPosition() {
         for (int slot = 0; slot < 4; slot++) {
             LogicLessTemplate x = Fixture.busy(CHECK).real();

@@ -121,13 +121,10 @@ public final class RenderEdgeTest {
         LogicLessTemplate x = new LogicLessTemplate(16);
         int root = Check.num(x, 7);
         for (String before : new String[] {"", "abc", SIXTEEN, SIXTEEN + "g"}) {
-            int result = before.length() > 16 ? OVERFLOW : OK;
-            shows(x, root, before, result, before.substring(0, Math.min(16, before.length())));
-            shows(x, root, "", "");
-            shows(x, root, before, result, before.substring(0, Math.min(16, before.length())));
-            shows(x, root, "z", "z");
-            shows(x, root, before, result, before.substring(0, Math.min(16, before.length())));
-            shows(x, root, "fedcba9876543210", "fedcba9876543210");
+            for (String after : new String[] {"", "z", "fedcba9876543210"}) {
+                showsFirst16(x, root, before, before);
+                shows(x, root, after, after);
+            }
         }
     }
 
@@ -162,12 +159,16 @@ public final class RenderEdgeTest {
         }
     }
 
+    private static void showsFirst16(LogicLessTemplate x, int root, String template, String all) {
+        boolean fits = all.length() <= 16;
+        shows(x, root, template, fits ? OK : OVERFLOW, fits ? all : all.substring(0, 16));
+    }
+
     private static void cutAnywhere(LogicLessTemplate x, int root, String tag, String text) {
         for (int before = 16 - text.length() - 1; before <= 16; before++) {
-            String all = SIXTEEN.substring(0, before) + text;
-            shows(x, root, SIXTEEN.substring(0, before) + tag, all.length() <= 16 ? OK : OVERFLOW, all.substring(0, Math.min(16, all.length())));
-            String more = all + "x";
-            shows(x, root, SIXTEEN.substring(0, before) + tag + "x", more.length() <= 16 ? OK : OVERFLOW, more.substring(0, Math.min(16, more.length())));
+            String lead = SIXTEEN.substring(0, before);
+            showsFirst16(x, root, lead + tag, lead + text);
+            showsFirst16(x, root, lead + tag + "x", lead + text + "x");
         }
     }
 

@@ -326,7 +326,10 @@ public final class TextEdgeTest {
         }
     }
 
-    /** P3: "the slot's text becomes empty, its status becomes ERR_NOT_COMPILED and its error position becomes -1. It answers OK. This happens even if the text was already empty." */
+    /**
+     * P3: "the slot's text becomes empty, its status becomes ERR_NOT_COMPILED and its error position becomes -1. It answers OK.
+     * This happens even if the text was already empty."
+     */
     private static void clearUndoesEveryStatus() {
         for (int slot = 0; slot < 4; slot++) {
             for (int status : Fixture.STATUSES) {

@@ -46,6 +46,7 @@ public final class ValueEdgeTest {
         fieldOfNoMap();
         fieldOfNoKey();
         fieldOfEveryKey();
+        fieldOfItsOwnMap();
         CHECK.end();
     }
 
@@ -527,6 +528,27 @@ public final class ValueEdgeTest {
             int same = key;
             CHECK.refused("P12: field " + key + " with value 1", x, () -> x.fieldOf(12, same), 1);
             CHECK.refused("P12: field " + key + " with value 32", x, () -> x.fieldOf(30, same), 32);
+        }
+    }
+
+    /** P12: "in MAP map": full strings, lists and maps around it lend it nothing. */
+    private static void fieldOfItsOwnMap() {
+        LogicLessTemplate x = new LogicLessTemplate(16);
+        Check.str(x, "abcdwxyz");
+        int first = Check.map(x, "wxyz", 1, 1, 1, 1);
+        int second = Check.map(x, "zyxw", 1, 2, 2, 1);
+        Check.str(x, "abcdwxyz");
+        int third = Check.map(x, "a", second);
+        Check.list(x, first, first, first, first);
+        int empty = Check.map(x, "");
+        Check.str(x, "abcdwxyz");
+        for (int key = 0; key <= 130; key++) {
+            boolean outer = key == 'w' || key == 'z';
+            boolean inner = key == 'x' || key == 'y';
+            CHECK.due("P12: field " + key + " of the first map", x.fieldOf(first, key), outer || inner ? 1 : 0);
+            CHECK.due("P12: field " + key + " of the second map", x.fieldOf(second, key), outer ? 1 : inner ? 2 : 0);
+            CHECK.due("P12: field " + key + " of the third map", x.fieldOf(third, key), key == 'a' ? second : 0);
+            CHECK.due("P12: field " + key + " of an empty map", x.fieldOf(empty, key), 0);
         }
     }
 }
